@@ -1196,6 +1196,7 @@ public final class NoteCounter {
         private final int[] fromMorning = new int[TOWNS * SETS];
         private final int[] fromEvening = new int[TOWNS * SETS];
         private int carried = 0;
+        private int sets = 1;
         int most = 0;
         int first = 0;
 
@@ -1204,7 +1205,8 @@ public final class NoteCounter {
         }
 
         void plan(Roads roads, int town, int n, int days) {
-            carried = n;
+            carried = Math.min(n, WAY_NOTES);
+            sets = 1 << carried;
             endTheWay();
             for (int day = days - 1; day > 0; day--) {
                 planMornings(day);
@@ -1215,13 +1217,9 @@ public final class NoteCounter {
             chooseFirst(roads, town, days > 1);
         }
 
-        private int sets() {
-            return 1 << Math.min(carried, WAY_NOTES);
-        }
-
         private void endTheWay() {
             for (int town = 0; town < TOWNS; town++) {
-                for (int sold = 0; sold < sets(); sold++) {
+                for (int sold = 0; sold < sets; sold++) {
                     fromEvening[town * SETS + sold] = 0;
                 }
             }
@@ -1229,7 +1227,7 @@ public final class NoteCounter {
 
         /** By the morning of a day no more NOTES can be sold than there were days ahead of it. */
         private void planMornings(int day) {
-            for (int sold = 0; sold < sets(); sold++) {
+            for (int sold = 0; sold < sets; sold++) {
                 if (Integer.bitCount(sold) <= day) {
                     for (int town = 0; town < TOWNS; town++) {
                         fromMorning[town * SETS + sold] = bestSale(town, sold);
@@ -1240,7 +1238,7 @@ public final class NoteCounter {
 
         private int bestSale(int town, int sold) {
             int best = fromEvening[town * SETS + sold];
-            for (int place = 0; place < carried && place < WAY_NOTES; place++) {
+            for (int place = 0; place < carried; place++) {
                 int then = sold | 1 << place;
                 if (then != sold) {
                     int gold = gains[town * WAY_NOTES + place] + fromEvening[town * SETS + then];
@@ -1251,7 +1249,7 @@ public final class NoteCounter {
         }
 
         private void planEvenings(Roads roads, int day) {
-            for (int sold = 0; sold < sets(); sold++) {
+            for (int sold = 0; sold < sets; sold++) {
                 if (Integer.bitCount(sold) <= day + 1) {
                     for (int town = 0; town < TOWNS; town++) {
                         fromEvening[town * SETS + sold] = bestMove(roads, town, sold);
@@ -1275,7 +1273,7 @@ public final class NoteCounter {
             most = NONE;
             for (int to = 0; to < TOWNS; to++) {
                 if (to == town || (goesOn && roads.milesBetween(town, to) > 0)) {
-                    for (int place = 0; place < carried && place < WAY_NOTES; place++) {
+                    for (int place = 0; place < carried; place++) {
                         int then = goesOn ? fromMorning[to * SETS + (1 << place)] : 0;
                         keepIfMore(to, place, gains[town * WAY_NOTES + place] + then);
                     }

@@ -7,6 +7,7 @@ public final class BooksTest {
         feed();
         goodTexts();
         faults();
+        fullTapes();
         faultStays();
         fortyEntries();
         known();
@@ -86,6 +87,8 @@ public final class BooksTest {
         fault("7", 1, 0);
         fault("wee 1 off 0 1;", 1, 0);
         fault("weekk 1 off 0 1;", 1, 0);
+        fault("xeek 1 off 0 1;", 1, 0);
+        fault("week 1 ofx 0 1;", 1, 7);
         fault("Week 1 off 0 1;", 1, 0);
         fault("week off 0 1;", 1, 5);
         fault("week 300 off 0 1;", 2, 5);
@@ -119,6 +122,19 @@ public final class BooksTest {
         fault("week 1 off 0 1;week 1 off 5 1;", 2, 26);
         fault("week 1 off 0 1; \u00e9", 1, 16);
         fault("week 1 off 5 101;", 2, 11);
+    }
+
+    private static void fullTapes() {
+        fault("a".repeat(400), 1, 0);
+        fault("7".repeat(400), 1, 0);
+        fault("week" + " ".repeat(396), 1, 400);
+        fault("week" + "\n".repeat(395) + "1", 1, 400);
+        fault("week 1 off 0 1;" + " ".repeat(381) + "week", 1, 400);
+        NoteCounter x = twoBanks();
+        due.is("400 bytes", 400, Due.type(x, "week 1 off 0 1" + " ".repeat(385) + ";"));
+        due.is("read to the last", 1, x.books());
+        due.is("400 again", 400, Due.type(x, " ".repeat(400)));
+        due.is("nothing in it", 1, x.books());
     }
 
     private static void faultStays() {
@@ -155,12 +171,19 @@ public final class BooksTest {
         due.is("what cannot stand there", -1000107, Due.read(x, "week 0 ofg 9 9;"));
         due.is("is 1", 1, x.fault());
         due.is("none read", 40, x.books());
+        due.is("no false one among 40", 0, x.known(0, 299, 0, 2));
+        due.is("none stopped among 40", Due.NONE, x.known(0, 299, 0, 1));
+        x.note(0, 1, 1, 2, 0);
+        due.is("nothing to tell it from among 40", 2, x.looks(0, 0, 299));
     }
 
     private static void known() {
         NoteCounter x = twoBanks();
         Due.read(x, "week 5 off 0 10 off 1 11 off 0 12; week 3 off 0 30; week 5 off 0 13;");
         due.is("before", 0, x.known(0, 2, 0, 0));
+        NoteCounter first = twoBanks();
+        Due.read(first, "week 0 false 1 9;");
+        due.is("the first entry of all", 1, first.known(0, 0, 1, 2));
         due.is("week 3", 30, x.known(0, 3, 0, 0));
         due.is("week 4", 30, x.known(0, 4, 0, 0));
         due.is("week 5: told last", 13, x.known(0, 5, 0, 0));

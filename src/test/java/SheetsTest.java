@@ -44,13 +44,12 @@ public final class SheetsTest {
         due.is("two there", 2, x.count(0));
         due.is("set of the empty one", Due.PLACE, x.set(0, 0, 1));
         for (int i = 0; i < 60; i++) {
-            due.is("set " + i, -i, x.set(7, i, -i));
+            due.is("set " + i, -1 - i, x.set(7, i, -1 - i));
         }
         due.is("another in its place", 3, x.sheet(7, 1, 3));
         due.is("still two", 2, x.count(0));
         due.is("beyond its new end", Due.PLACE, x.set(7, 3, 1));
         due.is("longer again", 60, x.sheet(7, 2, 60));
-        x.sheet(1, 2, 60);
         rate(x, "zeros at first");
         due.is("sheet -1", Due.BAD, x.sheet(-1, 0, 1));
         due.is("sheet 8", Due.BAD, x.sheet(8, 0, 1));

@@ -68,6 +68,11 @@ public final class TradersTest {
         due.is("another one's stays", 2, x.told(5, 4));
         due.is("what came comes back", 60, x.pay(1, 0, 999));
         due.is("three hands", 3, x.hands(0, -1, 0));
+        NoteCounter all = threeBanks();
+        for (int note = 0; note < 24; note++) {
+            all.note(note % 3, 1, 0, 0, 0);
+        }
+        due.is("all 24 at once", 24, all.pay(0, 1, 24));
     }
 
     /** What a NOTE is worth at the payer's and at the taker's need not be the same. */

@@ -17,6 +17,7 @@ final class BookEdges {
         everyByteBehindNumber();
         everyByteBehindName();
         tokens();
+        otherLetters();
         text();
         entries();
         allOrNone();
@@ -223,6 +224,18 @@ final class BookEdges {
         faultAt("wee 1 off 0 1;", 1, 0);
         faultAt("week 1 off 01;", 1, 13);
         good("week 1 off 0 01;", 1);
+    }
+
+    /** Each letter of each word by itself, one on in the alphabet. */
+    private void otherLetters() {
+        edge.promise(14, TOKENS);
+        for (String word : new String[] {"week", "off", "false", "stopped"}) {
+            for (int i = 0; i < word.length(); i++) {
+                String other = word.substring(0, i) + (char) (word.charAt(i) + 1) + word.substring(i + 1);
+                boolean book = word.equals("week");
+                faultAt(book ? other + " 1 off 0 1;" : "week 1 " + other + " 0 1;", 1, book ? 0 : 7);
+            }
+        }
     }
 
     private void text() {

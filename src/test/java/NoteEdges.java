@@ -229,6 +229,12 @@ final class NoteEdges {
         Due.read(all, text.append(';').toString());
         edge.is("unlike each of 40", 1, all.looks(0, 0, 0));
         edge.is("40 of them", 40, all.known(0, 0, 0, 2));
+        NoteCounter first = wornNote();
+        Due.read(first, "week 0 false 0 2;");
+        edge.is("unlike the first entry of all", 1, first.looks(0, 0, 0));
+        NoteCounter like = wornNote();
+        Due.read(like, "week 0 false 0 1" + " false 0 2".repeat(39) + ";");
+        edge.is("like the first, unlike the other 39", 2, like.looks(0, 0, 0));
         NoteCounter last = wornNote();
         Due.read(last, "week 0" + " false 0 2".repeat(39) + ";");
         edge.is("unlike each of 39", 1, last.looks(0, 0, 0));

@@ -102,6 +102,18 @@ final class TownEdges {
         edge.is("no way", Due.NONE, x.far(0, 5));
         edge.is("no way from there", Due.NONE, x.far(5, 1));
         edge.is("the others are joined", 500, x.far(0, 4));
+        for (int by = 0; by < 6; by++) {
+            int from = (by + 5) % 6;
+            int to = (by + 1) % 6;
+            NoteCounter between = new NoteCounter();
+            between.road(from, by, 1);
+            between.road(by, to, 2);
+            edge.is("by TOWN " + by + " alone", 3, between.far(from, to));
+            between.road(from, to, 4);
+            edge.is("by TOWN " + by + ", one mile less than straight", 3, between.far(to, from));
+            between.road(from, to, 2);
+            edge.is("straight, one mile less than by TOWN " + by, 2, between.far(to, from));
+        }
         NoteCounter two = new NoteCounter();
         two.road(0, 1, 1);
         two.road(2, 3, 1);
